@@ -56,6 +56,14 @@ public final class TextTest {
         Check.dueText(x, 0, "bear 1\t;", -1, 1, 6);
         Check.dueText(x, 0, "bear 1, ;", -1, 1, 6);
         Check.dueText(x, 0, "bear 1\u00E9;", -1, 1, 6);
+        Check.dueText(x, 0, "bearz 1;", -1, 1, 0);
+        Check.dueText(x, 0, "bearZ 1;", -1, 1, 0);
+        Check.dueText(x, 0, "bearA 1;", -1, 1, 0);
+        Check.dueText(x, 0, "bear 1;\0", -1, 1, 7);
+        Check.dueText(x, 0, "bear \1;", -1, 1, 5);
+        Check.dueText(x, 0, "bear \2;", -1, 1, 5);
+        Check.dueText(x, 0, ";".repeat(400), -1, 1, 0);
+        Check.dueText(x, 0, "bear 1" + "+1".repeat(197), -1, 1, 400);
         Check.due("it stays as it was", x.look(10), 0);
         Check.dueText(x, 0, "bear1;\nwant 2 when1<2;count\n9999*0007/3-week;", 3, 0, -1);
         Check.due("lines", x.look(10), 3);
@@ -109,6 +117,8 @@ public final class TextTest {
         // the third power of 9999 wraps to -1027349969; downwards it would be -11
         Check.due("ints wrap, towards 0", bear(x, "50+9999*9999*9999/9999/9999"), 40);
         Check.due("the fourth wraps to 1089432001", bear(x, "9999*9999*9999*9999/9999/9999"), 10);
+        Check.due("part by 1", bear(x, "7/1"), 7);
+        Check.due("a whole tape", bear(x, "age-40+1-1" + "+0".repeat(190)), 0);
         Check.due("leading zeros", bear(x, "0012"), 12);
     }
 
@@ -136,6 +146,13 @@ public final class TextTest {
         Check.due("not of all", when(x, "not (" + f + " and " + f + ")"), 1);
         Check.due("not not", when(x, "not not " + t), 1);
         Check.due("sums compared", when(x, "1+1*2>4-2"), 1);
+        Check.due("or or or", when(x, f + " or " + t + " or " + f + " or " + f), 1);
+        String half = f + " or " + t + " and (";
+        String deep = half.repeat(8) + f + " or " + t + " and 1+2*3=7";
+        Check.due("as deep as can be", when(x, deep + ")".repeat(8)), 1);
+        Check.due("as deep as can be", when(x, deep + "+1" + ")".repeat(8)), 2);
+        Check.tell(x, 0, "bear 3 when 1>2;".repeat(15) + "bear 6 when 2>1;");
+        Check.due("the sixteenth line", x.tree(0, 4), 6);
         Check.tell(x, 0, "want 7; bear 3 when 1>2; bear 4 when 2>1; bear 5; want 8;");
         Check.due("the first that is so", x.tree(0, 4), 4);
         Check.due("the first of its word", x.who(0, 1), 7);
@@ -224,6 +241,20 @@ public final class TextTest {
         Check.due("no jam", fruit("jam+2"), 2);
         Check.due("held above", fruit("10"), 9);
         Check.due("held below", fruit("0-1"), 0);
+        BallotFruit x = eaterAtTheTree("hanging");
+        x.set(4, 0, 5);
+        x.set(5, 1, 3);
+        Check.due("hanging, fruit by fruit", x.goes(1, 1, 1), 12);
+        Check.tell(x, 0, "bear 0; want hanging+2; count week;");
+        Check.due("without hanging", x.goes(1, 1, 1), 6);
+        x.image(true);
+        Check.tell(x, 0, "bear 0; count 9; count hanging;");
+        x.image(false);
+        Check.tell(x, 0, "bear 0; count hanging-1;");
+        x.image(true);
+        Check.tell(x, 0, "");
+        x.image(false);
+        Check.due("hanging, in the image", x.goes(1, 1, 1), 9);
         Check.due("hunger", spoon("hunger"), 1);
         Check.due("party", spoon("party"), 1);
         Check.due("taste", spoon("taste"), 7);

@@ -126,6 +126,21 @@ public final class ThoughtTest {
         x.set(4, 0, 5);
         x.set(4, 1, 9);
         Check.due("the least of like ones is another one", x.swings(1, 4), 4);
+        x.set(4, 0, 0);
+        x.set(4, 1, 3);
+        x.set(3, 0, 1);
+        Check.due("no votes then: the least of those without seats", x.swings(1, 1), 3);
+        x.set(4, 0, 2);
+        x.set(7, 0, 1);
+        Check.due("one less is a tie", x.swings(1, 1), -1);
+        x.set(7, 0, 0);
+        Check.due("one less is a tie", x.swings(1, 1), 1);
+        x.weeks(1);
+        x.set(3, 0, 3);
+        x.set(4, 0, 3);
+        x.set(4, 1, 4);
+        Check.due("seats in the third week", x.swings(1, 1), -1);
+        Check.due("seats in the third week, who had more before stays", x.swings(1, 2), 2);
     }
 
     private static void feeds() {
@@ -266,6 +281,10 @@ public final class ThoughtTest {
         Check.due("one alone", x.lasts(0), 5);
         Check.tell(x, 0, "want 20;");
         Check.due("by want", x.lasts(0), 1);
+        Check.tell(x, 0, "want 1;");
+        Check.due("spoon by spoon", x.lasts(0), 13);
+        x.taste(0, 0, 1);
+        Check.due("a taste of 1", x.lasts(0), 13);
         x.taste(0, 0, 0);
         Check.due("none is taken", x.lasts(0), -1);
         x.taste(0, 0, 1);

@@ -153,6 +153,8 @@ public final class UndoTest {
         Check.tell(x, 0, "bear 7;");
         Check.tell(x, 1, "eater 0 by 4 5;");
         Check.tell(x, 2, "on 9 open 0;");
+        x.set(0, 0, 11);
+        x.set(1, 0, 12);
         x.core(0, 4);
         x.fence(2, true);
         x.state(5);
@@ -168,6 +170,7 @@ public final class UndoTest {
         x.plant(1, 1, 1);
         x.fence(2, false);
         x.weeks(40);
+        x.core(-1, 1);
         x.core(1, 1);
         Check.tell(x, 0, "");
         Check.tell(x, 1, "");
@@ -177,7 +180,7 @@ public final class UndoTest {
         Check.put(x, "bear 8;");
         x.fence(7, true);
         Check.due("gone back", x.image(false), true);
-        int[] looks = {1, 1, 1, 1, 0, 0, 9, 4, 2, 5, 1, 1, 1, 1, 0, 4};
+        int[] looks = {1, 1, 1, 1, 11, 12, 9, 4, 2, 5, 1, 1, 1, 1, 0, 4};
         for (int i = 0; i < looks.length; i++) {
             Check.due("look " + i, x.look(i), looks[i]);
         }
@@ -221,5 +224,14 @@ public final class UndoTest {
         x.image(false);
         Check.due("lines", x.look(8), 2);
         Check.due("the line of then", x.book(1, 2), 8);
+        for (int i = 0; i < 148; i++) {
+            x.fence(8, i % 2 == 1);
+        }
+        Check.due("a full book", x.look(8), 150);
+        x.image(true);
+        x.undo();
+        x.fence(5, true);
+        x.image(false);
+        Check.due("the last line of then", x.book(149, 2), 8);
     }
 }

@@ -153,6 +153,10 @@ public final class WeekTest {
         Check.due("three draws", x.look(9), -775096599);
         Check.due("taste", x.who(0, 20), 3);
         Check.due("book", x.book(x.look(8) - 1, 1) * 100 + x.book(x.look(8) - 1, 2) * 10 + x.book(x.look(8) - 1, 3), 400);
+        x.set(0, 0, 1);
+        Check.due("five that are not bad", x.goes(1, 0, 1) + x.weeks(1) + x.of(0, 1), 16);
+        Check.due("but were drawn for", x.look(9) != -775096599, true);
+        x.undo();
         x.set(0, 0, 1000);
         x.weeks(1);
         Check.due("taste", x.who(0, 20), 1);
@@ -179,6 +183,10 @@ public final class WeekTest {
         Check.due("two draws", x.look(9), 1196435762);
         int i = x.look(8) - 1;
         Check.due("book", x.book(i, 1) * 100 + x.book(i, 2) * 10 + x.book(i, 3), 619);
+        x.state(0);
+        x.set(1, 0, 1);
+        x.weeks(1);
+        Check.due("draws for a thousandth too", x.look(9), 1196435762);
         x.set(1, 0, 563);
         x.state(0);
         x.weeks(1);
@@ -230,6 +238,9 @@ public final class WeekTest {
     }
 
     private static void seatsByEarlierSeats() {
+        BallotFruit z = orchard(0);
+        z.set(7, 1, 1);
+        Check.due("one vote has all", z.falls(0) * 10 + z.falls(1), 9);
         BallotFruit x = orchard(0);
         x.set(3, 0, 1);
         x.set(2, 0, 1);
@@ -349,6 +360,12 @@ public final class WeekTest {
         }
         Check.due("no eater", x.who(1, 0), -1);
         Check.due("no eater", x.who(-1, 0), -1);
+        x.party(0);
+        x.party(0);
+        x.party(0);
+        x.taste(0, 4, 8);
+        Check.due("taste for the fifth", x.who(0, 24), 8);
+        Check.due("no sixth", x.who(0, 25), -1);
         Check.due("no place", x.at(-1), -1);
         Check.due("no place", x.at(10), -1);
         Check.due("book", x.book(0, 4), -1);
