@@ -81,6 +81,9 @@ public final class FuzzTest {
     }
 
     private int near(int most) {
+        if (r.nextInt(60) == 0) {
+            return new int[] {Integer.MIN_VALUE, Integer.MAX_VALUE, -2, r.nextInt()}[r.nextInt(4)];
+        }
         int k = r.nextInt(14);
         return k == 0 ? -1 : k == 1 ? most + 1 : k == 2 ? most : k == 3 ? 0 : r.nextInt(most + 1);
     }
