@@ -231,10 +231,14 @@ public final class BallotFruit {
 
     public int text(int k) {
         reader.begin(here.parties, here.eaters);
-        if (!isWithin(k, 0, 2)) {
-            return NONE;
+        int lines = NONE;
+        switch (k) {
+            case 0: lines = reader.readLaw(now.law); break;
+            case 1: lines = reader.readPaths(now.paths); break;
+            case 2: lines = reader.readPlan(now.plan); break;
+            default: break;
         }
-        int lines = k == 0 ? reader.readLaw(now.law) : k == 1 ? reader.readPaths(now.paths) : reader.readPlan(now.plan);
+        // also where there is no such text
         tape.length = 0;
         if (lines != NONE && k != 0) {
             forget();
@@ -838,19 +842,20 @@ public final class BallotFruit {
             }
             int spare = chairs;
             for (int p = 0; p < parties; p++) {
-                spare -= votes[p] * chairs / all;
+                seats[p] = votes[p] * chairs / all;
+                spare -= seats[p];
             }
             int lucky = 0;
             for (int i = 0; i < spare; i++) {
-                lucky |= greatestRemainder(all, lucky);
-            }
-            // only now, for the seats of before decide between like remainders
-            for (int p = 0; p < parties; p++) {
-                seats[p] = votes[p] * chairs / all + (lucky >> p & 1);
+                int p = greatestRemainder(all, lucky);
+                if (p != NONE) {
+                    seats[p]++;
+                    lucky |= 1 << p;
+                }
             }
         }
 
-        /** As a set of the one party, none of the lucky; all is above 0. */
+        /** None of the lucky, so that the seats of all that are compared are those downwards; all is above 0. */
         private int greatestRemainder(int all, int lucky) {
             int best = NONE;
             int most = NONE;
@@ -863,7 +868,7 @@ public final class BallotFruit {
                     }
                 }
             }
-            return best == NONE ? 0 : 1 << best;
+            return best;
         }
 
         void growOlder() {

@@ -350,7 +350,7 @@ final class Oracle {
                 given += fresh[p];
             }
             order.sort(Comparator.<Integer>comparingInt(p -> -(parties.get(p).votes * chairs % all))
-                .thenComparingInt(p -> -parties.get(p).seats).thenComparingInt(p -> p));
+                .thenComparingInt(p -> -fresh[p]).thenComparingInt(p -> p));
             for (int i = 0; i < chairs - given; i++) {
                 fresh[order.get(i)]++;
             }
@@ -517,11 +517,12 @@ final class Oracle {
     public int text(int k) {
         fault = 0;
         faultPlace = NONE;
+        String told = tape;
+        tape = "";
         if (!in(k, 0, 2)) {
             return NONE;
         }
-        Parse parse = new Parse(tape, k, w.parties.size(), w.eaters.size());
-        tape = "";
+        Parse parse = new Parse(told, k, w.parties.size(), w.eaters.size());
         try {
             if (k == 0) {
                 w.law = parse.law();

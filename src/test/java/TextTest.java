@@ -339,7 +339,12 @@ public final class TextTest {
         Check.due("empty behind a fault", x.end(1), false);
         Check.dueText(x, 3, "bear 1;", -1, 0, -1);
         Check.dueText(x, -1, "bear 1;", -1, 0, -1);
-        Check.due("no such text takes nothing", x.text(0), 1);
+        Check.due("empty without such a text", x.end(1), false);
+        Check.due("nothing is told", x.look(10), 0);
+        Check.dueText(x, 0, "bear 1;", 1, 0, -1);
         Check.due("empty behind a text", x.end(1), false);
+        x.feed(0, 0, 0, 0, 0);
+        Check.due("no such text", x.text(3), -1);
+        Check.due("from its beginning", x.feed(0, 0, 0, 0, 0), 20);
     }
 }

@@ -140,7 +140,7 @@ public final class ThoughtTest {
         x.set(4, 0, 3);
         x.set(4, 1, 4);
         Check.due("seats in the third week", x.swings(1, 1), -1);
-        Check.due("seats in the third week, who had more before stays", x.swings(1, 2), 2);
+        Check.due("seats in the third week, one less is a tie", x.swings(1, 2), 1);
     }
 
     private static void feeds() {

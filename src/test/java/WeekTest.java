@@ -10,7 +10,7 @@ public final class WeekTest {
         badOnes();
         wasps();
         seatsByRemainders();
-        seatsByEarlierSeats();
+        seatsOfLikeRemainders();
         votesAreBounded();
         yearsGoBy();
         thePlan();
@@ -237,7 +237,7 @@ public final class WeekTest {
         Check.due("book: who has most", x.book(x.look(8) - 1, 2), 2);
     }
 
-    private static void seatsByEarlierSeats() {
+    private static void seatsOfLikeRemainders() {
         BallotFruit z = orchard(0);
         z.set(7, 1, 1);
         Check.due("one vote has all", z.falls(0) * 10 + z.falls(1), 9);
@@ -252,9 +252,36 @@ public final class WeekTest {
         Check.due("seats", seats(x), 1);
         x.set(7, 0, 4);
         x.set(7, 1, 4);
-        Check.due("the one with more seats before", x.falls(0) * 10 + x.falls(1), 1);
+        Check.due("the seats of before are not asked", x.falls(0) * 10 + x.falls(1), 10);
         x.weeks(1);
-        Check.due("the one with more seats before", seats(x), 1);
+        Check.due("the seats of before are not asked", seats(x), 100);
+        // 2, 6 by 4: 0 and 2, 1 and 2: one is left
+        x.set(2, 0, 2);
+        x.set(7, 0, 1);
+        x.set(7, 1, 3);
+        Check.due("the one with more seats downwards", x.falls(0) * 10 + x.falls(1), 2);
+        x.weeks(1);
+        Check.due("the one with more seats downwards", seats(x), 2);
+        fiveOfLikeRemainders();
+    }
+
+    private static void fiveOfLikeRemainders() {
+        BallotFruit x = new BallotFruit();
+        int[] votes = {1, 3, 2, 3, 9};
+        for (int p = 0; p < 5; p++) {
+            x.party(0);
+            x.set(7, p, votes[p]);
+        }
+        // nine chairs by 18 votes: downwards 0, 1, 1, 1, 4, and a half is left to all but party 2: two are left
+        x.set(3, 0, 1);
+        x.weeks(1);
+        Check.due("party 4, then party 1", seats(x), 2010105);
+        x.set(2, 0, 11);
+        for (int p = 0; p < 5; p++) {
+            x.set(7, p, 2);
+        }
+        x.weeks(1);
+        Check.due("all alike", seats(x), 302020202);
     }
 
     private static void votesAreBounded() {
