@@ -1145,6 +1145,7 @@ public final class BallotFruit {
         int hungry;
         int firstHungry;
         int firstWeek;
+        /** What votes grew by, also those that became seats since. */
         final int[] counted = new int[PARTIES];
 
         Season(boolean isTrue) {
@@ -1279,8 +1280,9 @@ public final class BallotFruit {
         }
 
         private void count(Commune c, int p, int n) {
-            c.votes[p] = Math.min(MOST_VOTES, c.votes[p] + n);
-            counted[p] += n;
+            int gets = Math.min(n, MOST_VOTES - c.votes[p]);
+            c.votes[p] += gets;
+            counted[p] += gets;
         }
 
         private void sting(Whole all, Commune c) {

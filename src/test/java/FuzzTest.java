@@ -64,7 +64,8 @@ public final class FuzzTest {
             alike &= call("taste", r.nextInt(eaters), r.nextInt(parties), r.nextInt(10));
         }
         for (int i = r.nextInt(5); i > 0 && parties > 0; i--) {
-            alike &= call("set", 7, r.nextInt(parties), r.nextInt(40));
+            int votes = r.nextInt(40);
+            alike &= call("set", 7, r.nextInt(parties), r.nextInt(3) == 0 ? 9999 - votes : votes);
         }
         return alike && tellSome() && tellSome() && tellSome();
     }

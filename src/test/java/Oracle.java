@@ -198,8 +198,9 @@ final class Oracle {
 
         void vote(int party, int count) {
             Party p = parties.get(party);
+            int before = p.votes;
             p.votes = Math.min(9999, p.votes + count);
-            gained[party] += count;
+            gained[party] += p.votes - before;
         }
 
         int boil(int party, int n) {

@@ -4,6 +4,7 @@ public final class ThoughtTest {
         goes();
         falls();
         brings();
+        bringsNoMoreThanVotesHold();
         swings();
         feeds();
         cores();
@@ -102,6 +103,32 @@ public final class ThoughtTest {
             x.plant(0, 0, 0);
         }
         Check.due("no room", x.brings(0, 1, 0), -1);
+    }
+
+    private static void bringsNoMoreThanVotesHold() {
+        BallotFruit x = two(3);
+        Check.tell(x, 0, "bear 5; count 4 when place = 2; count 5;");
+        Check.tell(x, 1, "eater 0 by 2; eater 1 by 7;");
+        // no seats fall in three weeks: each eater eats 3 in a week, at 2 for 12 votes, at 7 for 15
+        Check.due("far below", x.brings(0, 3, 0) * 1000 + x.brings(0, 3, 1), 7045);
+        x.set(7, 0, 9954);
+        Check.due("just as many", x.brings(0, 3, 0) * 1000 + x.brings(0, 3, 1), 7045);
+        x.set(7, 0, 9955);
+        Check.due("one is too many", x.brings(0, 3, 0) * 1000 + x.brings(0, 3, 1), 7044);
+        x.set(7, 0, 9963);
+        Check.due("as many at 2: the least", x.brings(0, 3, 0) * 1000 + x.brings(0, 3, 1), 2036);
+        x.set(7, 0, 9999);
+        Check.due("none more", x.brings(0, 3, 0) * 1000 + x.brings(0, 3, 1), 0);
+        Check.due("behind a seating they grow again", x.brings(0, 5, 0) * 1000 + x.brings(0, 5, 1), 7015);
+        x.set(7, 0, 9992);
+        Check.due("up to the seating and behind it", x.brings(0, 5, 1), 22);
+        Check.due("nobody else's", x.brings(1, 3, 1), 45);
+        x.set(6, 0, 9);
+        x.set(7, 0, 9997);
+        Check.tell(x, 1, "");
+        Check.due("spoons too", x.brings(0, 1, 0) * 1000 + x.brings(0, 1, 1), 2);
+        x.set(7, 0, 9999);
+        Check.due("spoons too: none more", x.brings(0, 1, 1), 0);
     }
 
     private static void swings() {
