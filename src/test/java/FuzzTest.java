@@ -40,7 +40,7 @@ public final class FuzzTest {
 
     private boolean go() throws Exception {
         boolean alike = settle();
-        while (alike && left > 60) {
+        while (alike && left > 90) {
             alike = r.nextInt(12) == 0 ? tellSome() : one();
         }
         return alike && all();
