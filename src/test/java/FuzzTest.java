@@ -48,7 +48,7 @@ public final class FuzzTest {
 
     /** A commune that is not empty, for most runs. */
     private boolean settle() throws Exception {
-        boolean alike = true;
+        boolean alike = r.nextInt(25) > 0 || late();
         int parties = r.nextInt(6);
         int eaters = r.nextInt(11);
         for (int i = 0; i < parties; i++) {
@@ -68,6 +68,16 @@ public final class FuzzTest {
             alike &= call("set", 7, r.nextInt(parties), r.nextInt(3) == 0 ? 9999 - votes : votes);
         }
         return alike && tellSome() && tellSome() && tellSome();
+    }
+
+    /** Near the last WEEK, near a plan's last one, or near a year's end. */
+    private boolean late() throws Exception {
+        boolean alike = true;
+        int[] ends = {9999, 1000, 104};
+        for (int n = ends[r.nextInt(3)] - r.nextInt(30); n > 0; n -= 60) {
+            alike &= call("weeks", Math.min(60, n));
+        }
+        return alike;
     }
 
     private boolean all() throws Exception {

@@ -45,6 +45,8 @@ public final class TextBoundsTest {
         noLineIsSo();
         weekModulo52();
         whatIsAskedAtItsMost();
+        wantAsksForNoParty();
+        hangingAheadOfEachFruit();
         Check.finish();
     }
 
@@ -118,9 +120,26 @@ public final class TextBoundsTest {
         Check.due("bear", x.tree(0, 4), 77);
         Check.dueText(x, 1, "eater 0 by 1;".repeat(15) + "eater 0 by 9 8;", 16, 0, -1);
         Check.due("the last line of several", x.who(0, 2) * 100 + x.who(0, 10) * 10 + x.who(0, 11), 298);
-        Check.dueText(x, 2, "on 1 open 4;".repeat(15) + "on 0 fence 9;", 16, 0, -1);
+        Check.dueText(x, 0, "want 1 when 1<0;".repeat(15) + "want 17;", 16, 0, -1);
+        Check.due("want", x.who(0, 1), 17);
+        x.set(6, 1, 1);
+        x.set(5, 0, 0);
+        x.set(5, 1, 1);
+        Check.dueText(x, 0, "count 1 when 1<0;".repeat(15) + "count 8;", 16, 0, -1);
+        Check.due("count", x.goes(1, 1, 1), 8);
+        Check.dueText(x, 2, "on 1 open 4;".repeat(15) + "on 2 plant 1 at 9;", 16, 0, -1);
+        x.weeks(2);
+        Check.due("not yet", x.look(1), 2);
         x.weeks(1);
-        Check.due("fenced", x.look(15), 512);
+        Check.due("planted", x.look(1) * 100 + x.tree(2, 0) * 10 + x.tree(2, 1), 319);
+        x.set(4, 2, 99);
+        x.set(6, 1, 0);
+        Check.dueText(x, 2, "on 1 open 4;".repeat(15) + "on 3 boil 1 77;", 16, 0, -1);
+        x.weeks(1);
+        Check.due("boiled", x.book(x.look(8) - 2, 3), 77);
+        Check.dueText(x, 2, "on 4 open 4;".repeat(15) + "on 4 cheese 1;", 16, 0, -1);
+        x.weeks(1);
+        Check.due("cheese", x.who(1, 0), 2);
     }
 
     /** "digits as many as stand together NUMBERS of 1 to 4 digits or none". */
@@ -596,5 +615,44 @@ public final class TextBoundsTest {
         x.set(4, 0, 0);
         x.set(6, 4, 999);
         Check.due("count of a spoon", x.goes(1, 4, 1), 6);
+    }
+
+    /** "want of an EATER: hunger: HUNGER; the rest (but week) 0", whichever PARTY has SEATS. */
+    private static void wantAsksForNoParty() {
+        for (int p = 0; p < 5; p++) {
+            BallotFruit x = new BallotFruit();
+            for (int i = 0; i < 5; i++) {
+                x.party(9);
+            }
+            x.eater(0);
+            x.plant(p, 0, 99);
+            x.set(4, 0, 99);
+            x.set(3, 0, 1);
+            x.set(7, p, 5);
+            x.weeks(1);
+            Check.due("seats", x.of(p, 2), 9);
+            Check.dueText(x, 0, "want party+place+age+hanging+taste+jam+seats;", 1, 0, -1);
+            Check.due("want", x.who(0, 1), 0);
+        }
+    }
+
+    /** "hanging: ahead of it": fruit by fruit, whichever of sixteen lines asks for it. */
+    private static void hangingAheadOfEachFruit() {
+        for (int line = 0; line < 16; line++) {
+            for (int k = 0; k < 2; k++) {
+                BallotFruit x = small();
+                x.set(4, 1, 4);
+                Check.tell(x, 1, "eater 1 by 6;");
+                String asks = k == 0 ? "count hanging;" : "count 9 when hanging>3; count hanging;";
+                String law = "bear 0 when 0<1;" + "count 1 when 1<0;".repeat(Math.max(0, line - 1)) + asks;
+                law = line == 0 ? asks + "bear 0;" : law;
+                int lines = line + 1 + k + (line == 0 ? 1 : 0);
+                if (lines <= 16) {
+                    Check.dueText(x, 0, law, lines, 0, -1);
+                    // eater 1 eats all four
+                    Check.due("line " + line + " asks for hanging", x.goes(1, 1, 1), k == 0 ? 10 : 15);
+                }
+            }
+        }
     }
 }

@@ -17,6 +17,7 @@ public final class ThoughtBoundsTest {
         fallsIsBounded();
         bringsIsBounded();
         bringsFromOneToTwentyWeeks();
+        bringsOfEachOfFive();
         bringsOfAgeTen();
         bringsAtTenPlaces();
         bringsIfThereIsRoom();
@@ -51,6 +52,8 @@ public final class ThoughtBoundsTest {
         imageOfAllThatIsFull();
         theLastTasteGoesBack();
         coresGoBack();
+        theEighthCoreGoesBack();
+        theFourteenthTreeGoesBack();
         Check.finish();
     }
 
@@ -211,6 +214,22 @@ public final class ThoughtBoundsTest {
             Check.due("two in each of twenty weeks", x.brings(1, 20, 1), 40);
             x.fence(place, true);
             Check.due("nowhere: the least", x.brings(1, 20, 0) * 10 + x.brings(1, 20, 1), 0);
+        }
+    }
+
+    private static void bringsOfEachOfFive() {
+        BallotFruit x = two(20);
+        x.party(0);
+        x.party(0);
+        x.party(0);
+        Check.tell(x, 0, "");
+        Check.tell(x, 1, "eater 0 by 3 7; eater 1 by 8 7;");
+        x.set(3, 0, 2);
+        for (int p = 0; p < 5; p++) {
+            Check.due("where, how many, party " + p, x.brings(p, 5, 0) * 100 + x.brings(p, 5, 1), 310);
+            x.set(6, p, 30);
+            Check.due("with spoons of its own, party " + p, x.brings(p, 1, 0) * 100 + x.brings(p, 1, 1), 332);
+            x.set(6, p, 0);
         }
     }
 
@@ -554,8 +573,9 @@ public final class ThoughtBoundsTest {
     /** "the fewest PARTIES whose SEATS together are more than half of all SEATS". */
     private static void rulesByMoreThanHalf() {
         int[][] seats = {{49, 50}, {50, 49}, {49, 49}, {1, 1}, {2, 1, 1}, {1, 2, 1}, {3, 1, 1}, {20, 20, 20, 20, 19}, {1, 1, 1, 1, 1},
-            {1, 1, 1, 1, 4}, {1, 1, 1, 1, 5}, {10, 0, 10, 0, 0}};
-        int[] due = {102, 101, 203, 203, 203, 203, 101, 307, 307, 217, 116, 205};
+            {1, 1, 1, 1, 4}, {1, 1, 1, 1, 5}, {10, 0, 10, 0, 0}, {2, 2, 2, 3}};
+        // the last one: three parties are the lesser set 7, but two are fewer
+        int[] due = {102, 101, 203, 203, 203, 203, 101, 307, 307, 217, 116, 205, 209};
         for (int i = 0; i < seats.length; i++) {
             BallotFruit x = parliament(seats[i]);
             Check.due("rules, case " + i, x.rules(0) * 100 + x.rules(1), due[i]);
@@ -877,5 +897,68 @@ public final class ThoughtBoundsTest {
         Check.due("nobody", x.whose(0), 0);
         x.image(false);
         Check.due("its place", x.whose(0) * 10 + x.look(13), 22);
+    }
+
+    private static void theEighthCoreGoesBack() {
+        BallotFruit x = two(0);
+        Check.tell(x, 1, "eater 0 by 3 4; eater 1 by 3 5;");
+        x.taste(1, 1, 0);
+        for (int i = 0; i < 7; i++) {
+            x.core(0, 3);
+        }
+        x.core(1, 4);
+        x.image(true);
+        x.core(-1, 0);
+        for (int i = 0; i < 7; i++) {
+            x.core(0, 3);
+        }
+        x.core(0, 5);
+        Check.due("another", x.whose(0), 2);
+        x.image(false);
+        Check.due("its place", x.whose(0), 1);
+        Check.tell(x, 1, "eater 0 by 3 4; eater 1 by 3 4;");
+        Check.due("its party", x.whose(0), 1);
+    }
+
+    private static int lastTree(BallotFruit x) {
+        return x.tree(13, 0) * 1000000 + x.tree(13, 1) * 10000 + x.tree(13, 2) * 100 + x.tree(13, 3);
+    }
+
+    /** All of the last TREE: in thought, undone, in THE IMAGE. */
+    private static void theFourteenthTreeGoesBack() {
+        BallotFruit x = two(1);
+        for (int t = 0; t < 13; t++) {
+            x.plant(0, 0, 0);
+        }
+        x.weeks(50);
+        x.plant(1, 9, 98);
+        x.set(4, 13, 44);
+        Check.tell(x, 1, "eater 0 by 9;");
+        Check.tell(x, 0, "bear 0 when party=0; bear 3 when party=1 and place=9 and age=98; bear 20 when age=99;");
+        Check.due("in thought it is eaten", x.goes(1, 1, 1), 1);
+        x.image(true);
+        x.weeks(2);
+        Check.due("two weeks, and a year older", lastTree(x), 1099948);
+        x.undo();
+        x.undo();
+        Check.due("undone", lastTree(x), 1099844);
+        x.image(true);
+        x.weeks(3);
+        Check.due("in a year more it bears more", lastTree(x), 1099967);
+        x.image(false);
+        Check.due("the image", lastTree(x), 1099844);
+        BallotFruit y = two(1);
+        for (int t = 0; t < 13; t++) {
+            y.plant(0, 0, 0);
+        }
+        y.plant(1, 9, 98);
+        y.image(true);
+        y.undo();
+        Check.due("planted anew", y.plant(0, 2, 7), 13);
+        Check.due("another tree", lastTree(y), 20700);
+        y.image(false);
+        Check.due("the image's tree", lastTree(y), 1099800);
+        y.plant(0, 0, 0);
+        Check.due("fourteen", y.look(1), 14);
     }
 }
